@@ -154,6 +154,8 @@ final class ReadingsTest {
         YearDeck y = Check.riding("u0,12301;l050000");
         share(y, 0, 12, 1, 32);
         share(y, 0, 11, 1, 16);
+        share(y, 0, 0, 1, 1);
+        share(y, 0, 13, 0, 1);
     }
 
     private static void share(YearDeck x, int a, int v, int upper, int lower) {

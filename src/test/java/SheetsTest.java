@@ -38,6 +38,9 @@ final class SheetsTest {
         check.due("its last cell is as it was", x.cell(0, 59, 0), 7);
         check.due("a new row", x.sheet(0, 2, 60), 1);
         check.due("is 0", x.cell(0, 59, 2), 0);
+        x.put(0, 0, 5);
+        x.sheet(0, 2, 60);
+        check.due("is 0 from its first cell on", x.cell(0, 0, 2), 0);
         x.put(0, 30, 5);
         x.sheet(0, 2, 10);
         x.sheet(0, 2, 60);

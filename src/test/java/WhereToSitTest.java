@@ -42,6 +42,8 @@ final class WhereToSitTest {
         check.due("4 by 1 and 3", x.way(0, 4), 5);
         check.due("only their own", x.way(1, 4), 10);
         check.due("all with a slope", x.way(0, 8), 15);
+        YearDeck all = Check.riding("u1,00000;l050000");
+        check.due("all of theirs", all.way(0, 5), 31);
     }
 
     private static void spreads() {
