@@ -89,7 +89,7 @@ final class FaceTest {
 
     private static void sourceKeepsToItsRules(String source) {
         String code = source.replaceAll("(?s)/\\*.*?\\*/", " ").replaceAll("//[^\n]*", " ");
-        Matcher banned = Pattern.compile("\\b(throw|throws|try|catch|synchronized|assert|import|package|Exact"
+        Matcher banned = Pattern.compile("\\b(throw|throws|try|catch|synchronized|assert|import|package|\\w+Exact"
             + "|System\\.(?!arraycopy)\\w+|Random|Thread|Object|equals|hashCode|toString)\\b|->|::|static\\s*\\{")
             .matcher(code);
         check.holds("no word outside the rules", !banned.find());
